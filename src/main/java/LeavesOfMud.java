@@ -1062,9 +1062,9 @@ public final class LeavesOfMud {
             int sum = 0;
             for (int i = Math.max(0, k); i < pits.sizes[a] && i - k < size; i++) {
                 int place = i - k;
-                int leaf = (place + turn) % size;
+                int leaf = turnedPlace(place, turn, size);
                 if (i > 0 && place > 0) {
-                    int ahead = (place - 1 + turn) % size;
+                    int ahead = turnedPlace(place - 1, turn, size);
                     sum += pits.stepBetween(a, i - 1, i) * pits.stepBetween(b, ahead, leaf);
                 }
                 if (pits.isAsh(a, i) && pits.isAsh(b, leaf)) {
@@ -1072,6 +1072,10 @@ public final class LeavesOfMud {
                 }
             }
             return sum;
+        }
+
+        private static int turnedPlace(int place, int turn, int size) {
+            return place + turn < size ? place + turn : place + turn - size;
         }
 
         /** The slides are tried in the order in which like ones are taken, so only a greater one is better. */
