@@ -854,15 +854,15 @@ public final class LeavesOfMud {
         }
 
         private boolean isKept(int join) {
-            return (keptBits & 1 << join) != 0;
+            return (keptBits & (1 << join)) != 0;
         }
 
         private void setKept(int join, boolean is) {
-            keptBits = is ? keptBits | 1 << join : keptBits & ~(1 << join);
+            keptBits = is ? keptBits | (1 << join) : keptBits & ~(1 << join);
         }
 
         private boolean isTied(int pit) {
-            return (tiedBits & 1 << pit) != 0;
+            return (tiedBits & (1 << pit)) != 0;
         }
 
         private void dropTie(int pit) {
@@ -1255,7 +1255,8 @@ public final class LeavesOfMud {
         }
 
         private static int ashesFrom(int[] ashes, int leaf) {
-            return asNumber(ashes[leaf] != NONE) + asNumber(ashes[leaf + 1] != NONE);
+            int there = ashes[leaf] == NONE ? 0 : 1;
+            return ashes[leaf + 1] == NONE ? there : there + 1;
         }
 
         private void goTheWay() {
@@ -1524,7 +1525,7 @@ public final class LeavesOfMud {
             }
             if (bonds.isKept(join)) {
                 copyLevel(join);
-                castFrom(join + 1, cast | 1 << join, doubt + bonds.doubts[join]);
+                castFrom(join + 1, cast | (1 << join), doubt + bonds.doubts[join]);
             }
         }
 

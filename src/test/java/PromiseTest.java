@@ -260,9 +260,14 @@ public final class PromiseTest {
         due(7, "w of 35 is", mud.lay(1, 36, 1, 0, 0), 6);
         leavesDue(mud, 1, new int[][] {{1, 47}, {3, 41}, {3, 6}, {1, 47}, {0, 41}, {1, 41}});
         mud.pit(0);
+        mud.pit(0);
         due(7, "the greatest seed", mud.lay(2, MAX, 6, 20, 30), 9);
         leavesDue(mud, 2, new int[][] {{0, 19}, {3, 41}, {3, 3}, {3, 3}, {3, 7}, {0, 24}, {3, 38}, {3, 6}, {1, 46}});
         mud.pit(0);
+        due(7, "x of 13 is not below 13, but below 14", mud.lay(4, 1, 1, 13, 1), 2);
+        // draws of seed 0: (0, 0, 88) (37, 0, 27)
+        due(7, "seed 0", mud.lay(4, 0, 2, 27, 61), 5);
+        leavesDue(mud, 4, new int[][] {{3, 41}, {3, 6}, {0, 5}, {3, 40}, {3, 2}});
         mud.leaf(3, FLOOD, 9, 9);
         due(7, "no more than 16", mud.lay(3, 5, 20, 0, 99), 16);
         due(7, "the flood is still at the bottom", mud.about(3, 0, 0), FLOOD);
@@ -894,6 +899,17 @@ public final class PromiseTest {
             all.join(0, 1, i, i, 50 - i);
         }
         due(32, "all but the one of least doubt", all.castOut(), 2047);
+        all.tie(0, 0, 0);
+        all.tie(1, 99, 99);
+        due(32, "all twelve", all.castOut(), 4095);
+        LeavesOfMud cross = new LeavesOfMud();
+        cross.pit(0);
+        cross.pit(0);
+        cross.join(0, 1, 0, 0, 7);
+        cross.join(0, 1, 5, 5, 6);
+        cross.join(0, 1, 5, 5, 8);
+        cross.join(0, 1, 0, 0, 7);
+        due(32, "6 is less than 9", cross.castOut(), 6);
     }
 
     private static void hangs() {
@@ -947,6 +963,20 @@ public final class PromiseTest {
         apart.join(2, 3, -9, 9, 0);
         due(34, "what would be left of the other", apart.dig(2), 3);
         due(34, "the wider one", apart.dig(0), 2);
+        LeavesOfMud top = new LeavesOfMud();
+        top.pit(0);
+        top.pit(0);
+        top.pit(0);
+        top.join(0, 1, 0, 40, 0);
+        top.join(0, 2, 0, 100, 0);
+        top.join(1, 2, -200, 0, 0);
+        due(34, "the worst is the last of 41 that may be found", top.dig(2), 80);
+        LeavesOfMud narrow = new LeavesOfMud();
+        narrow.pit(0);
+        narrow.pit(0);
+        narrow.join(1, 0, 3, 4, 0);
+        due(34, "width 1", narrow.dig(2), 0);
+        due(34, "width 1", narrow.dig(1), 1);
     }
 
     private static void digOftenDone() {
@@ -969,12 +999,19 @@ public final class PromiseTest {
         due(35, "the other way", mud.pace(1, 0, 1, 1), 1);
         due(35, "like miles", mud.pace(1, 2, 0, 0), STATE);
         due(35, "with itself", mud.pace(1, 1, 0, 0), STATE);
+        mud.pit(31);
+        mud.join(0, 4, 100, 100, 0);
+        mud.join(1, 4, -7, 200, 0);
+        due(35, "1 mile by 95", mud.pace(1, 4, 0, 0), 1);
+        due(35, "1 mile by 95", mud.pace(4, 1, 0, 1), 95);
+        mud.keep(3, false);
+        mud.keep(4, false);
         due(35, "floating", mud.pace(0, 3, 0, 0), STATE);
         due(35, "end", mud.pace(1, 2, 2, 0), OUTSIDE);
         due(35, "part", mud.pace(1, 2, 0, 2), OUTSIDE);
         due(35, "end below", mud.pace(0, 1, -1, 0), OUTSIDE);
         due(35, "part below", mud.pace(0, 1, 0, -1), OUTSIDE);
-        due(35, "no pit", mud.pace(4, 0, 2, 0), UNKNOWN);
+        due(35, "no pit", mud.pace(5, 0, 2, 0), UNKNOWN);
         due(35, "no pit", mud.pace(0, -1, 0, 0), UNKNOWN);
         mud.join(0, 3, -1, 7, 0);
         due(35, "0 within", mud.pace(0, 3, 0, 0), STATE);
@@ -1021,6 +1058,11 @@ public final class PromiseTest {
         row(same, 0, "a1.1 f1.2 a1.1");
         row(same, 0, "a1.1 l1 l1 a1.1");
         due(36, "one n: the first one there is one", same.took(0, 1, 0), NONE);
+        LeavesOfMud full = new LeavesOfMud();
+        row(full, 0, "a1.1 l1 l1 l1 l1 l1 l1 l1 l1 l1 l1 l1 l1 l1 l1 f1.2");
+        row(full, 0, "a1.2");
+        row(full, 0, "a1.1 l1 l1 a1.2");
+        due(36, "the next pit's leaves are not behind it", full.took(0, 15, 0), NONE);
         LeavesOfMud alone = new LeavesOfMud();
         row(alone, 0, "a1.1 f1.2 a1.2");
         due(36, "no other pit", alone.took(0, 1, 1), NONE);
