@@ -1,4 +1,5 @@
 import java.io.IOException;
+import java.lang.reflect.Array;
 import java.lang.reflect.Constructor;
 import java.lang.reflect.Field;
 import java.lang.reflect.Member;
@@ -8,6 +9,7 @@ import java.nio.file.Files;
 import java.nio.file.Path;
 import java.util.ArrayList;
 import java.util.Arrays;
+import java.util.IdentityHashMap;
 import java.util.List;
 import java.util.TreeSet;
 import java.util.regex.Matcher;
@@ -36,10 +38,11 @@ public final class FaceTest {
 
     private static int wrong = 0;
 
-    public static void main(String[] args) throws IOException {
+    public static void main(String[] args) throws IOException, IllegalAccessException {
         face();
         nestedClasses();
         source();
+        room();
         System.out.println("the face: " + wrong + " faults");
         if (wrong > 0) {
             System.exit(1);
@@ -138,6 +141,45 @@ public final class FaceTest {
             must(text.charAt(i) < 127, "a sign above 126 at " + i);
         }
         methodLengths(text);
+        madeInFieldsAlone(code);
+    }
+
+    /** All rows are made with the object: no call makes one, so a run takes no more room by its calls. */
+    private static void madeInFieldsAlone(String code) {
+        for (String line : code.split("\n")) {
+            must(!line.matches(".*\\b(new|clone|copyOf|copyOfRange)\\b.*") || line.matches(" +private final .* = new .*;"),
+                    "made outside a field: " + line.trim());
+        }
+    }
+
+    /** A run has one room for 600,000 objects and arrays, 7.3 million fields and elements: one is far below. */
+    private static void room() throws IllegalAccessException {
+        IdentityHashMap<Object, Boolean> seen = new IdentityHashMap<>();
+        int slots = slotsOf(new LeavesOfMud(), seen);
+        must(seen.size() <= 80, "objects and arrays of one: " + seen.size());
+        must(slots <= 4000, "fields and elements of one: " + slots);
+    }
+
+    private static int slotsOf(Object one, IdentityHashMap<Object, Boolean> seen) throws IllegalAccessException {
+        if (one == null || seen.put(one, true) != null) {
+            return 0;
+        }
+        int slots = 0;
+        if (one.getClass().isArray()) {
+            slots = Array.getLength(one);
+            for (int i = 0; !one.getClass().getComponentType().isPrimitive() && i < Array.getLength(one); i++) {
+                slots += slotsOf(Array.get(one, i), seen);
+            }
+            return slots;
+        }
+        for (Field field : one.getClass().getDeclaredFields()) {
+            if (!Modifier.isStatic(field.getModifiers())) {
+                slots++;
+                field.setAccessible(true);
+                slots += field.getType().isPrimitive() ? 0 : slotsOf(field.get(one), seen);
+            }
+        }
+        return slots;
     }
 
     /** By the indents: a method begins with a line that ends in ") {" and ends with "}" at the same indent. */

@@ -64,6 +64,8 @@ public final class NetEdgesTest {
         digIsDone8Times();
         digNoPair();
         digOfLikeOnes();
+        digWorstAtTheEnds();
+        digOfSevenPits();
         digByTies();
         Bench.end();
     }
@@ -309,6 +311,13 @@ public final class NetEdgesTest {
         }
         LeavesOfMud last = Bench.rows(Bench.times(15, "f1.9") + " a1.3", "a1.3");
         Bench.due(29, "the last LEAF of 16", last.span(0, 1, 0), 135);
+        LeavesOfMud seven = Bench.rows("a1.9 a1.0", "l1", "l1", "l1", "l1", "l1 a1.0", "a1.9 a1.0");
+        Bench.due(28, "the first and the last of seven", seven.closes(), 1);
+        Bench.due(29, "the first and the last of seven", seven.span(0, 6, 0), 0);
+        Bench.due(31, "three of seven", seven.calendars(1), 97);
+        Bench.due(32, "no JOINS", seven.castOut(), 0);
+        LeavesOfMud beside = Bench.rows(Bench.times(16, "l1"), "a1.9", "a1.9");
+        Bench.due(31, "an ASH at the bottom of the PIT behind a full one", beside.calendars(1), 1);
     }
 
     // ---- Promise 28
@@ -571,6 +580,13 @@ public final class NetEdgesTest {
         Bench.due(31, "PIT 0 hangs on one", mud.calendars(1), 11);
         mud.untie(1);
         Bench.due(31, "not on PIT 1 any more", mud.calendars(1), 9);
+        LeavesOfMud again = pits(3);
+        again.join(1, 0, 0, 0, 0);
+        again.join(2, 1, 0, 0, 0);
+        Bench.due(31, "by JOINS to PIT 0", again.calendars(1), 7);
+        again.keep(0, false);
+        Bench.due(31, "PIT 0 is alone again", again.calendars(1), 1);
+        Bench.due(31, "the others are not", again.calendars(0), 2);
     }
 
     // ---- Promise 32
@@ -594,6 +610,8 @@ public final class NetEdgesTest {
         Bench.due(32, "TIES and ASHES", mud.castOut(), NONE);
         mud.ashes(false);
         Bench.due(32, "ASHES not looked at", mud.castOut(), 1);
+        mud.ashes(true);
+        Bench.due(32, "ASHES looked at again", mud.castOut(), NONE);
         mud.tie(1, 0, 0);
         Bench.due(32, "it closes", mud.castOut(), 0);
     }
@@ -699,6 +717,14 @@ public final class NetEdgesTest {
         mud.tie(0, 0, 0);
         mud.tie(1, -1, 5);
         Bench.due(33, "TIES tell as much", mud.hangs(0, 1), 0);
+        LeavesOfMud ends = pits(4);
+        ends.join(2, 3, 0, 9, 0);
+        ends.join(2, 3, -1, 9, 0);
+        Bench.due(33, "wider below alone, of PITS 2 and 3", ends.hangs(2, 3), 1);
+        ends.join(2, 3, 0, 10, 0);
+        Bench.due(33, "no more", ends.hangs(2, 3), 0);
+        ends.keep(1, false);
+        Bench.due(33, "wider above alone, of PITS 2 and 3", ends.hangs(3, 2), 1);
         LeavesOfMud last = pits(7);
         for (int join = 0; join < 12; join++) {
             last.join(join % 6, join % 6 + 1, join < 6 ? -2 : -1, 2, 0);
@@ -789,6 +815,15 @@ public final class NetEdgesTest {
             Bench.taken(34, "all float", () -> pits(7), m -> m.dig(asked), NONE);
             Bench.taken(34, "all is known", () -> Bench.rows("a1.1", "l1 a1.1"), m -> m.dig(asked), NONE);
         }
+        LeavesOfMud mud = pits(2);
+        mud.join(0, 1, 0, 3, 0);
+        int[] pair = {0, 1, 0};
+        for (int what = 0; what <= 2; what++) {
+            mud.keep(0, true);
+            Bench.due(34, "a pair, what " + what, mud.dig(what), pair[what]);
+            mud.keep(0, false);
+            Bench.due(34, "none any more, what " + what, mud.dig(what), NONE);
+        }
     }
 
     /** "the pair of least WORST, of like ones the least a, then b". */
@@ -811,6 +846,67 @@ public final class NetEdgesTest {
         star.join(0, 2, 0, 4, 0);
         star.join(1, 2, 0, 0, 0);
         Bench.due(34, "one a: the least b", star.dig(1), 1);
+    }
+
+    /** "each whole number of their SPAN may be": the first and the last of 41 are the worst. */
+    private static void digWorstAtTheEnds() {
+        LeavesOfMud mud = pits(3);
+        mud.join(0, 1, 0, 40, 0);
+        mud.join(0, 2, 0, 100, 0);
+        mud.join(1, 2, -200, 0, 0);
+        // PIT 2 is from PIT 0 to PIT 1: 1 found at 40 leaves 40 and 40, as 2 found at 0 does, and 2 at 1
+        Bench.due(34, "THE WORST", mud.dig(2), 80);
+        Bench.due(34, "a", mud.dig(0), 0);
+        Bench.due(34, "b", mud.dig(1), 1);
+    }
+
+    /** Seven PITS: the year 0, from which TIES count, is no PIT of a pair. */
+    private static void digOfSevenPits() {
+        LeavesOfMud mud = pits(7);
+        mud.tie(6, 0, 10);
+        Bench.due(34, "one TIE is no pair", mud.dig(1), NONE);
+        mud.join(5, 6, 0, 3, 0);
+        Bench.due(34, "a", mud.dig(0), 5);
+        Bench.due(34, "b", mud.dig(1), 6);
+        Bench.due(34, "no WIDTH is left", mud.dig(2), 0);
+        LeavesOfMud all = pits(7);
+        for (int pit = 0; pit < 6; pit++) {
+            all.join(pit, pit + 1, 0, 6, 0);
+        }
+        int[] due = digOfAChain();
+        for (int what = 0; what <= 2; what++) {
+            Bench.due(34, "seven in a chain, what " + what, all.dig(what), due[what]);
+        }
+    }
+
+    /** Seven PITS in a chain of gaps of 0 to 6: a, b and THE WORST. */
+    private static int[] digOfAChain() {
+        int[] best = null;
+        for (int a = 0; a < 7; a++) {
+            for (int b = a + 1; b < 7; b++) {
+                int worst = 0;
+                for (int found = 0; found <= 6 * (b - a); found++) {
+                    worst = Math.max(worst, widthsOfAChain(a, b, found));
+                }
+                if (best == null || worst < best[2]) {
+                    best = new int[] {a, b, worst};
+                }
+            }
+        }
+        return best;
+    }
+
+    /** Gaps of c to d that are of a to b, too, share what was found with the rest of those; all others are free. */
+    private static int widthsOfAChain(int a, int b, int found) {
+        int sum = 0;
+        for (int c = 0; c < 7; c++) {
+            for (int d = c + 1; d < 7; d++) {
+                int both = Math.max(0, Math.min(b, d) - Math.max(a, c));
+                int least = Math.max(0, found - 6 * (b - a - both));
+                sum += Math.min(6 * both, found) - least + 6 * (d - c - both);
+            }
+        }
+        return sum;
     }
 
     /** All tied ones are of one CALENDAR; their TIES are bounds of what may be found. */

@@ -562,6 +562,8 @@ public final class PitEdgesTest {
         Bench.due(7, "2 and 4", mud.about(0, 1, 1), 6);
         Bench.due(7, "HALF", mud.about(0, 0, 0), Bench.HALF);
         Bench.due(7, "HALF", mud.about(0, 1, 0), Bench.HALF);
+        Bench.due(7, "n 0", mud.about(0, 0, 2), 0);
+        Bench.due(7, "n 0", mud.about(0, 1, 2), 0);
         Bench.due(7, "x 13 is not below 12 and 1", mud.lay(0, 1, 1, 12, 1), 3);
         Bench.due(7, "5, 38 and 4", mud.about(0, 2, 1), 47);
         int least = seedOf(0, 40, 0);

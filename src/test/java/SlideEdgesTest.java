@@ -189,6 +189,9 @@ public final class SlideEdgesTest {
         Bench.due(18, "2 OVER: -15 has too few", far.slide(0, 1, 2), -1);
         Bench.due(18, "15 OVER", far.slide(0, 1, 15), -1);
         Bench.due(18, "16 OVER: 0 alone, whatever its LIKE", far.slide(0, 1, 16), 0);
+        LeavesOfMud ends = Bench.rows(Bench.times(15, "l5") + " a5.1", "a5.1 " + Bench.times(15, "l5"));
+        Bench.due(18, "as far as can be above 0", ends.slide(0, 1, 1), 15);
+        Bench.due(18, "as far as can be below 0", ends.slide(1, 0, 1), -15);
     }
 
     /** ASHES at both ends: 5 for slides of -15 and 15, 10 less for 0, 0 for all others. */

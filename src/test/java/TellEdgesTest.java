@@ -33,6 +33,7 @@ public final class TellEdgesTest {
         tookTheNearest();
         tookOfTheFirstAndTheLastLeaf();
         tookLeastAndGreatest();
+        tookByTheFirstAndTheLastPit();
         tookWhateverTheNet();
         imageEmptyAndFull();
         imageIsTheLatest();
@@ -151,6 +152,12 @@ public final class TellEdgesTest {
                 Bench.due(35, what + ", below", mud.pace(0, 1, end, 1), one[3]);
             }
         }
+        LeavesOfMud both = new LeavesOfMud();
+        both.pit(240);
+        both.pit(210);
+        both.join(0, 1, 9, 9, 0);
+        Bench.due(35, "the difference of both MILES", both.pace(0, 1, 0, 0), 10);
+        Bench.due(35, "the difference of both MILES, turned", both.pace(1, 0, 0, 1), 3);
         LeavesOfMud far = new LeavesOfMud();
         far.pit(0);
         far.pit(240);
@@ -344,6 +351,21 @@ public final class TellEdgesTest {
         // PIT 6 has a FLOOD, too: by PIT 3, where a FLOOD is between, it is not told
         Bench.due(36, "the other FLOOD, least", mud.took(6, 1, 0), 0);
         Bench.due(36, "the other FLOOD, greatest", mud.took(6, 1, 1), 5);
+    }
+
+    /** The first PIT alone tells, or the last one; what stands in the PIT behind a full one is not of it. */
+    private static void tookByTheFirstAndTheLastPit() {
+        String there = "a1.1 l1 l1 a1.2";
+        Bench.due(36, "the first PIT", Bench.rows(there, HERE, "l1").took(1, 1, 0), 2);
+        Bench.due(36, "the last of seven", Bench.rows("", HERE, "", "", "", "", there).took(1, 1, 1), 2);
+        String full = "a1.1 " + Bench.times(15, "l1");
+        Bench.due(36, "an ASH at the bottom of the PIT behind", Bench.rows(HERE, full, "a1.2").took(0, 1, 0), NONE);
+        String last = Bench.times(15, "l1") + " a1.1";
+        LeavesOfMud seven = Bench.rows("", "", "", "", "", HERE, last);
+        Bench.due(36, "the last LEAF of the last PIT", seven.took(5, 1, 0), NONE);
+        seven.change(6, 0, Bench.ASH, 1, 1);
+        seven.change(6, 15, Bench.ASH, 1, 2);
+        Bench.due(36, "the first and the last LEAF of the last PIT", seven.took(5, 1, 0), 14);
     }
 
     /** It tells of ASHES as they lie: whether IT CLOSES, or ASHES are looked at in the net, is not asked. */
