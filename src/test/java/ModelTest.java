@@ -18,7 +18,11 @@ public final class ModelTest {
         for (int run = 0; run < runs && wrong < 5; run++) {
             new Run(run).go();
         }
-        System.out.println(Arrays.toString(Run.asked));
+        System.out.println("answers by promise " + Arrays.toString(Run.asked));
+        if (Run.mostCalls > 512) {
+            System.out.println("an object was used for " + Run.mostCalls + " calls");
+            wrong++;
+        }
         if (wrong > 0) {
             System.exit(1);
         }
@@ -769,6 +773,7 @@ public final class ModelTest {
     /** One run: calls with arguments by a seed, mostly fit, some not; some runs lean to some calls. */
     static final class Run {
         static final int[] asked = new int[41];
+        static int mostCalls = 0;
 
         final int seed;
         final Random random;
@@ -818,9 +823,11 @@ public final class ModelTest {
         void go() {
             build();
             int calls = 120 + random.nextInt(120);
-            for (int i = 0; i < calls && wrong < 5; i++) {
+            // one more call may be many answers; what an object answers behind 512 calls is free
+            for (int i = 0; i < calls && log.size() < 390 && wrong < 5; i++) {
                 call(1 + random.nextInt(40));
             }
+            mostCalls = Math.max(mostCalls, log.size());
         }
 
         void build() {
